@@ -12,6 +12,8 @@ public final class HistoryTest {
         restoreAnswers();
         slotsAreApart();
         restoreLeavesPadAndHistory();
+        runnersComeBackWithAllTheyCarry();
+        ledgerComesBackWhole();
         Due.end("HistoryTest");
     }
 
@@ -212,5 +214,49 @@ public final class HistoryTest {
         Due.due("22: the history goes on", x.count(10), 3);
         Due.due("20: undone", x.undo(), 2);
         Due.due("20: two hours", x.count(2), 2);
+    }
+
+    private static void runnersComeBackWithAllTheyCarry() {
+        ToldDrops x = new ToldDrops();
+        x.rain(40, 3);
+        x.send(1);
+        x.save(0);
+        x.lose(0);
+        x.rain(99, 24);
+        x.send(2);
+        x.restore(0);
+        x.rain(0, 1);
+        // the village had caught 360 when the runner was sent
+        Due.due("22: guessed by what the runner bears in mind", x.ledger(1, 0), 36);
+        x.undo();
+        x.undo();
+        Due.due("20: the runner of 2", x.runner(0, 0), 2);
+        x.rain(0, 2);
+        Due.due("20: guessed by what this one bears in mind", x.ledger(2, 0), 748);
+    }
+
+    private static void ledgerComesBackWhole() {
+        ToldDrops x = new ToldDrops();
+        x.rain(5, 3);
+        x.gauge(1, 3, 10, 100, 2);
+        x.send(1);
+        x.rain(5, 1);
+        x.gauge(1, 3, 10, 100, 0);
+        x.send(1);
+        x.send(1);
+        x.save(0);
+        String before = told(x);
+        x.rain(0, 1);
+        Due.due("20: one too late", x.ledger(1, 5), 1);
+        x.undo();
+        Due.due("20: none too late", x.ledger(1, 5), 0);
+        Due.due("20: one twice", x.ledger(1, 6), 1);
+        Due.due("20: as before", told(x).equals(before) ? 1 : 0, 1);
+        x.rain(5, 9);
+        x.send(1);
+        x.restore(0);
+        Due.due("22: as saved", told(x).equals(before) ? 1 : 0, 1);
+        x.undo();
+        Due.due("20: too late again", x.ledger(1, 5), 1);
     }
 }

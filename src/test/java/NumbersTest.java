@@ -161,6 +161,14 @@ public final class NumbersTest {
         Due.due("13: a half of 2", x.untilRound(2, 1), 500);
         x.gauge(2, 1, 50, 99, 1);
         Due.due("13: nothing of 1", x.untilRound(2, 1), NONE);
+        x.rain(1, 24);
+        x.rain(1, 24);
+        x.set(ToldDrops.WHEEL, 11);
+        Due.due("13: 502 hours", x.untilRound(1, 1), NONE);
+        x.rain(1, 1);
+        Due.due("13: 501 hours", x.untilRound(1, 1), NONE);
+        x.rain(1, 1);
+        Due.due("13: 500 hours again", x.untilRound(1, 1), 500);
     }
 
     private static void untilRoundGoesByTheLatestTelling() {
@@ -267,6 +275,11 @@ public final class NumbersTest {
         Due.due("16: dry", x.mostUntold(), NONE);
         x.rain(3, 1);
         Due.due("16: no tip", x.mostUntold(), NONE);
+        x.gauge(3, 3, 5, 100, 3);
+        x.rain(0, 1);
+        Due.due("16: one tip", x.mostUntold(), 3);
+        x.undo();
+        x.undo();
         x.rain(10, 5);
         Due.due("16: the lowest of all", x.mostUntold(), 0);
         x.send(0);
