@@ -30,35 +30,15 @@ public final class HistoryTest {
         return x;
     }
 
-    /** All that can be asked of a valley but pad and history, as one text. */
-    private static String told(ToldDrops x) {
-        StringBuilder text = new StringBuilder();
-        for (int what = 0; what <= 8; what++) {
-            text.append(x.count(what)).append(' ');
-        }
-        for (int gauge = 0; gauge < 6; gauge++) {
-            for (int what = 0; what < 9; what++) {
-                text.append(x.gaugeOf(gauge, what)).append(' ').append(x.ledger(gauge, Math.min(what, 7))).append(' ');
-            }
-            text.append(x.untilRound(gauge, 3)).append(' ').append(x.ifSent(gauge)).append(' ').append(x.ifAllCome(gauge)).append(' ');
-        }
-        for (int runner = 0; runner < x.count(3); runner++) {
-            for (int what = 0; what < 4; what++) {
-                text.append(x.runner(runner, what)).append(' ');
-            }
-        }
-        return text.append(x.mostUntold()).toString();
-    }
-
     private static void undone(String change, ToldDrops x, String before, boolean differs) {
-        Due.due("20: " + change + " changes", told(x).equals(before) ? 0 : 1, differs ? 1 : 0);
+        Due.due("20: " + change + " changes", Told.valley(x).equals(before) ? 0 : 1, differs ? 1 : 0);
         Due.due("20: undo of " + change, x.undo(), 5);
-        Due.due("20: as before " + change, told(x).equals(before) ? 1 : 0, 1);
+        Due.due("20: as before " + change, Told.valley(x).equals(before) ? 1 : 0, 1);
     }
 
     private static void undoOfEachChange() {
         ToldDrops x = busyValley();
-        String before = told(x);
+        String before = Told.valley(x);
         Due.due("20: full", x.count(10), 6);
         x.set(ToldDrops.WHEEL, 9);
         undone("set wheel", x, before, true);
@@ -147,9 +127,9 @@ public final class HistoryTest {
     private static void questionsAreNotRecorded() {
         ToldDrops x = busyValley();
         x.undo();
-        String before = told(x);
+        String before = Told.valley(x);
         Due.due("20: asking records nothing", x.count(10), 5);
-        Due.due("20: asking changes nothing", told(x).equals(before) ? 1 : 0, 1);
+        Due.due("20: asking changes nothing", Told.valley(x).equals(before) ? 1 : 0, 1);
         x.save(0);
         Due.due("21: save is no change", x.count(10), 5);
     }
@@ -174,7 +154,7 @@ public final class HistoryTest {
         Due.due("22: 2", x.restore(2), BAD_VALUE);
         Due.due("22: nothing saved", x.restore(1), NOT_POSSIBLE);
         ToldDrops busy = busyValley();
-        String before = told(busy);
+        String before = Told.valley(busy);
         busy.save(1);
         busy.set(ToldDrops.WHEEL, 33);
         busy.set(ToldDrops.GUESS, 0);
@@ -182,10 +162,10 @@ public final class HistoryTest {
         busy.rain(77, 24);
         busy.send(4);
         Due.due("22: the hours then", busy.restore(1), 6);
-        Due.due("22: all as saved", told(busy).equals(before) ? 1 : 0, 1);
+        Due.due("22: all as saved", Told.valley(busy).equals(before) ? 1 : 0, 1);
         busy.rain(5, 5);
         Due.due("22: the slot keeps it", busy.restore(1), 6);
-        Due.due("22: all as saved again", told(busy).equals(before) ? 1 : 0, 1);
+        Due.due("22: all as saved again", Told.valley(busy).equals(before) ? 1 : 0, 1);
         Due.due("22: nothing in the other", busy.restore(0), NOT_POSSIBLE);
     }
 
@@ -245,17 +225,17 @@ public final class HistoryTest {
         x.send(1);
         x.send(1);
         x.save(0);
-        String before = told(x);
+        String before = Told.valley(x);
         x.rain(0, 1);
         Due.due("20: one too late", x.ledger(1, 5), 1);
         x.undo();
         Due.due("20: none too late", x.ledger(1, 5), 0);
         Due.due("20: one twice", x.ledger(1, 6), 1);
-        Due.due("20: as before", told(x).equals(before) ? 1 : 0, 1);
+        Due.due("20: as before", Told.valley(x).equals(before) ? 1 : 0, 1);
         x.rain(5, 9);
         x.send(1);
         x.restore(0);
-        Due.due("22: as saved", told(x).equals(before) ? 1 : 0, 1);
+        Due.due("22: as saved", Told.valley(x).equals(before) ? 1 : 0, 1);
         x.undo();
         Due.due("20: too late again", x.ledger(1, 5), 1);
     }

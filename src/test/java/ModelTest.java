@@ -1,6 +1,7 @@
 /** All promises: long runs of calls on the class and on WordsModel, whose answers have to be the same. */
 public final class ModelTest {
-    private static final int RUNS = 3000, CALLS = 512;
+    /** An object answers 512 calls; a step makes up to 12, and asking for all about 200. */
+    private static final int RUNS = 16000, CALLS = 512, CALLS_OF_A_STEP = 12, CALLS_FOR_ALL = 200, CALLS_OF_LONG_RAIN = 413;
     private static final String[] TEXTS = {"r9h3", "s0;s1;s2;s3;s4;s5", "r0h1;s0", "r99h24;s1;r1h2", "r7h25", "s6", "r1h1;", "s0s1",
         "s5;s5;s5;s5;s5;s5;s5;s5;s5;s5;s5;s5;s5;s5;s5;s5;s5;s5;s5;s5", "r12h;", "r2h2;s4;r2h2;s4;r2h2", "r00", ";", "r10h24;r10h24;r10h24"};
 
@@ -9,6 +10,7 @@ public final class ModelTest {
     private final WordsModel model = new WordsModel();
     private final int run;
     private final int moods;
+    private int calls;
 
     private ModelTest(int run) {
         this.run = run;
@@ -24,13 +26,32 @@ public final class ModelTest {
     }
 
     private void go() {
-        for (int call = 0; call < CALLS; call++) {
-            change(call);
-            ask(call);
+        if (run % 16 == 1) {
+            rainLong();
+        }
+        boolean asksAll = run % 16 < 1 || run % 16 > 8;
+        int last = CALLS - CALLS_OF_A_STEP - (asksAll ? CALLS_FOR_ALL : 0);
+        while (calls <= last) {
+            change(calls);
+            ask(calls);
+        }
+        if (asksAll) {
+            askAll(calls);
+        }
+        Due.due("run " + run + ": no more than 512 calls", calls <= CALLS ? 1 : 0, 1);
+    }
+
+    /** So many hours that the last ones of the 9999 are reached. */
+    private void rainLong() {
+        for (int call = 0; call < CALLS_OF_LONG_RAIN; call++) {
+            int amount = numbers.below(100);
+            due(call, "rain " + amount + " 24", x.rain(amount, 24), model.rain(amount, 24));
         }
     }
 
+    /** Each answer is that of one call. */
     private void due(int call, String name, int got, int want) {
+        calls++;
         Due.due("run " + run + ", call " + call + ": " + name, got, want);
     }
 
@@ -106,19 +127,18 @@ public final class ModelTest {
     }
 
     private void ask(int call) {
-        due(call, "fault", x.fault(), model.fault());
-        due(call, "mostUntold", x.mostUntold(), model.mostUntold());
-        int g = near(0, 5), amount = near(0, 99), few = near(0, 3), what = near(0, 8), r = near(0, 19), carried = near(0, 3), number = near(0, 10);
-        due(call, "gaugeOf " + g + " " + what, x.gaugeOf(g, what), model.gaugeOf(g, what));
-        due(call, "ledger " + g + " " + what, x.ledger(g, what), model.ledger(g, what));
-        due(call, "runner " + r + " " + carried, x.runner(r, carried), model.runner(r, carried));
-        due(call, "count " + number, x.count(number), model.count(number));
-        due(call, "untilRound " + g + " " + amount, x.untilRound(g, amount), model.untilRound(g, amount));
-        due(call, "untilRound " + g + " " + few, x.untilRound(g, few), model.untilRound(g, few));
-        due(call, "ifSent " + g, x.ifSent(g), model.ifSent(g));
-        due(call, "ifAllCome " + g, x.ifAllCome(g), model.ifAllCome(g));
-        if (call % 64 == 63) {
-            askAll(call);
+        int g = near(0, 5), amount = numbers.below(2) == 0 ? near(0, 99) : near(0, 3), what = near(0, 8), r = near(0, 19), carried = near(0, 3);
+        switch (numbers.below(10)) {
+            case 0: due(call, "fault", x.fault(), model.fault()); break;
+            case 1: due(call, "mostUntold", x.mostUntold(), model.mostUntold()); break;
+            case 2: due(call, "gaugeOf " + g + " " + what, x.gaugeOf(g, what), model.gaugeOf(g, what)); break;
+            case 3: due(call, "ledger " + g + " " + what, x.ledger(g, what), model.ledger(g, what)); break;
+            case 4: due(call, "runner " + r + " " + carried, x.runner(r, carried), model.runner(r, carried)); break;
+            case 5: due(call, "count " + (what + 2), x.count(what + 2), model.count(what + 2)); break;
+            case 6: due(call, "untilRound " + g + " " + amount, x.untilRound(g, amount), model.untilRound(g, amount)); break;
+            case 7: due(call, "ifSent " + g, x.ifSent(g), model.ifSent(g)); break;
+            case 8: due(call, "ifAllCome " + g, x.ifAllCome(g), model.ifAllCome(g)); break;
+            default: due(call, "ledger " + g + " 3", x.ledger(g, 3), model.ledger(g, 3)); break;
         }
     }
 
