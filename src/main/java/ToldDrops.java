@@ -484,10 +484,10 @@ public final class ToldDrops {
         /** Takes a runner from the way; the row is kept behind the others for a later one. */
         void removeRunner(int number) {
             Runner removed = runnerAt(number);
-            if (removed == null) {
+            int last = onTheWay - 1;
+            if (removed == null || last >= runners.length) {
                 return;
             }
-            int last = onTheWay - 1;
             for (int runner = number; runner < last; runner++) {
                 runners[runner] = runners[runner + 1];
             }

@@ -22,6 +22,10 @@ public final class FaceTest {
         constants();
         members();
         classesInside();
+        shapeOf(ToldDrops.class);
+        for (Class<?> inside : ToldDrops.class.getDeclaredClasses()) {
+            shapeOf(inside);
+        }
         source(Files.readString(Path.of("src/main/java/ToldDrops.java")));
         Due.end("FaceTest");
     }
@@ -63,22 +67,52 @@ public final class FaceTest {
     }
 
     private static void classesInside() {
-        Set<String> face = new TreeSet<>();
-        for (String method : FACE.split(" ")) {
-            face.add(method.substring(0, method.indexOf('(')));
-        }
         Class<?>[] inside = ToldDrops.class.getDeclaredClasses();
         Due.due("at most 12 classes", inside.length < 12 ? 1 : 0, 1);
         for (Class<?> one : inside) {
             Due.due(one + " is static", one.getModifiers() & (Modifier.STATIC | Modifier.PUBLIC | Modifier.PROTECTED), Modifier.STATIC);
-            for (Method method : one.getDeclaredMethods()) {
-                Due.due(method + " has a name of its own", face.contains(method.getName()) ? 1 : 0, 0);
-            }
             Due.due(one + " has some twenty fields", one.getDeclaredFields().length <= 20 ? 1 : 0, 1);
         }
     }
 
+    /** A private method bears no public name, a method takes at most seven parameters, a static field is final. */
+    private static void shapeOf(Class<?> one) {
+        Set<String> face = namesOfFace();
+        for (Method method : one.getDeclaredMethods()) {
+            boolean isPublic = Modifier.isPublic(method.getModifiers());
+            Due.due(method + " has a name of its own", !isPublic && face.contains(method.getName()) ? 1 : 0, 0);
+            Due.due(method + " takes at most 7", method.getParameterCount() <= 7 ? 1 : 0, 1);
+        }
+        for (Field field : one.getDeclaredFields()) {
+            boolean changes = Modifier.isStatic(field.getModifiers()) && !Modifier.isFinal(field.getModifiers());
+            Due.due(field + " is no static that changes", changes ? 1 : 0, 0);
+        }
+    }
+
+    private static Set<String> namesOfFace() {
+        Set<String> names = new TreeSet<>();
+        for (String method : FACE.split(" ")) {
+            names.add(method.substring(0, method.indexOf('(')));
+        }
+        return names;
+    }
+
+    /** Methods stay short: from the line that opens one to the line that closes it, which stands as far in. */
+    private static void lengths(String[] lines) {
+        for (int from = 0; from < lines.length; from++) {
+            Matcher opens = Pattern.compile("((?:    ){1,2})[^ ].*\\) \\{").matcher(lines[from]);
+            if (opens.matches()) {
+                int to = from;
+                while (to < lines.length && !lines[to].equals(opens.group(1) + "}")) {
+                    to++;
+                }
+                Due.due("'" + lines[from].strip() + "' is closed within 60 lines", to < lines.length && to - from < 60 ? 1 : 0, 1);
+            }
+        }
+    }
+
     private static void source(String text) {
+        lengths(text.split("\n"));
         String code = text.replaceAll("(?s)/\\*.*?\\*/", " ").replaceAll("//[^\n]*", " ");
         Matcher found = Pattern.compile(LEFT_OUT).matcher(code);
         while (found.find()) {
